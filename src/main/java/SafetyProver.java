@@ -785,6 +785,7 @@ public final class SafetyProver {
         final Circuit circuit;
         final int[] next;
         final long[] successorSets;
+        final long[] predecessorSets;
         final int[] depths;
         final int[] distances;
         final int[] classes;
@@ -798,6 +799,7 @@ public final class SafetyProver {
             circuit = explored;
             next = new int[MAX_STATES * MAX_INPUT_VALUES];
             successorSets = new long[MAX_STATES];
+            predecessorSets = new long[MAX_STATES];
             depths = new int[MAX_STATES];
             distances = new int[MAX_STATES];
             classes = new int[MAX_STATES];
@@ -817,12 +819,16 @@ public final class SafetyProver {
         }
 
         void findSuccessors() {
+            Arrays.fill(predecessorSets, 0L);
             for (int s = 0; s < circuit.states && s < MAX_STATES; s++) {
                 long set = 0;
                 for (int input = 0; input < circuit.inputValues && input < MAX_INPUT_VALUES; input++) {
                     int to = circuit.step(s, input);
                     next[s * MAX_INPUT_VALUES + input] = to;
                     set |= 1L << to;
+                    if (to >= 0 && to < MAX_STATES) {
+                        predecessorSets[to] |= 1L << s;
+                    }
                 }
                 successorSets[s] = set;
             }
@@ -983,23 +989,25 @@ public final class SafetyProver {
         }
 
         long successorsOf(long set) {
-            long found = 0;
-            for (int s = 0; s < circuit.states && s < MAX_STATES; s++) {
-                if (contains(set, s)) {
-                    found |= successorSets[s];
-                }
-            }
-            return found;
+            return unionOver(set, successorSets);
         }
 
         long predecessorsOf(long set) {
-            long found = 0;
-            for (int s = 0; s < circuit.states && s < MAX_STATES; s++) {
-                if ((successorSets[s] & set) != 0) {
-                    found |= 1L << s;
+            return unionOver(set, predecessorSets);
+        }
+
+        static long unionOver(long set, long[] sets) {
+            long union = 0;
+            long rest = set;
+            // A border of a search is small: only its own states are gone through.
+            for (int turn = 0; turn < MAX_STATES && rest != 0; turn++) {
+                int s = leastOf(rest);
+                if (s >= 0 && s < sets.length) {
+                    union |= sets[s];
                 }
+                rest &= rest - 1;
             }
-            return found;
+            return union;
         }
 
         long statesThatCanReach(long set) {
@@ -1194,7 +1202,7 @@ public final class SafetyProver {
                         return false;
                     }
                     oblige(bad, top);
-                } else if (handle(leastOf(obligations[level]), level)) {
+                } else if (handle(leastOf(obligedAt(level)), level)) {
                     return true;
                 }
             }
@@ -1208,6 +1216,10 @@ public final class SafetyProver {
                 }
             }
             return NONE;
+        }
+
+        long obligedAt(int level) {
+            return level >= 0 && level < LEVELS ? obligations[level] : 0;
         }
 
         void oblige(int target, int level) {
@@ -1411,7 +1423,7 @@ public final class SafetyProver {
         }
 
         /** Whether a sequence that is at a state of starts with so many steps to go can end in a bad state. */
-        boolean goesOnSimply(int from, int steps, long used) {
+        private boolean goesOnSimply(int from, int steps, long used) {
             if (steps <= 1) {
                 // The last state is bad and the others are good: it is none of the used ones.
                 return true;
