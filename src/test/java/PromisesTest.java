@@ -158,6 +158,10 @@ public final class PromisesTest {
             + "successor(63, 0) = 0; successor(31, 0) = 32; prove() = 1; simulate(100, 0, 0) = 36;"
             + "simulate(100, 0, 1) = 64; simulate(100, 0, 2) = 63; simulate(62, 0, 2) = -1; 'f'; check() = 7;"
             + "candidate() = -4294967296; modal(2) = -1; modal(4) = 0; escape(0) = 63; escape(2) = 0");
+        run("13: the last state of 64", "begin(6, 0) = 64; 'a&b&c&d&e&f'; setInit() = 1; '!(a&b&c&d&e&f)';"
+            + "setProperty() = 63; system(9) = 0; shortest(0, 0) = 63; shortest(0, 1) = -1; simulate(0, 0, 0) = 63;"
+            + "simulate(3, 0, 2) = 0; prove() = 1; proof(1) = 0; frame(0) = -9223372036854775808; state(63, 4) = 63;"
+            + "'a&b&c&d&e&f'; candidate() = -9223372036854775808; check() = 4; escape(0) = -1");
         run("13: shortest", COUNTER + "shortest(0, 0) = 0; shortest(0, 1) = 0; shortest(6, 0) = 6; shortest(7, 0) = 7;"
             + "shortest(7, 1) = -1; shortest(8, 0) = throws IndexOutOfBoundsException;"
             + "shortest(-1, 0) = throws IndexOutOfBoundsException; shortest(0, 2) = throws IllegalArgumentException;"
@@ -244,6 +248,13 @@ public final class PromisesTest {
         // Of the bad states 1, 2, 3 the cubes a and b are needed, found in this order; the third is in both.
         run("23: shrunken keeps what is needed", "'!(a|b)'; setProperty() = 1; prove() = 0; proof(2) = 2; cube(0, 0) = 1;"
             + "cube(0, 1) = 1; cube(1, 0) = 2; cube(1, 1) = 2; certificate() = 1; shrunken() = 2; shrunken() = 2");
+        // 0 goes to 0, 1 to 3, 2 to 0, 3 to 3; 2 and 3 are bad. Handled: (2, 1), then with k = 2 (2, 2), (3, 2), (1, 1),
+        // (1, 2), (3, 2). The first cube gets the level 2 last, and is not needed beside the two others.
+        run("18 to 23: three cubes, one of them not needed", "'a'; setNext(0) = 0; 'a'; setNext(1) = 4; '!b';"
+            + "setProperty() = 2; prove() = 0; proof(1) = 3; proof(2) = 3; proof(3) = 6; proof(4) = 3; proof(5) = 2;"
+            + "proof(6) = 1; proof(7) = 3; frame(0) = 1; frame(1) = 1; frame(2) = 1; frame(3) = 15; cube(0, 0) = 2;"
+            + "cube(0, 1) = 2; cube(0, 2) = 2; cube(1, 0) = 3; cube(1, 1) = 2; cube(1, 2) = 2; cube(2, 0) = 1;"
+            + "cube(2, 1) = 1; cube(2, 2) = 2; certificate() = 1; shrunken() = 2; proof(7) = 3; certificate() = 1");
         String none = "throws IllegalStateException; ";
         String forgotten = "proof(0) = -1; proof(7) = -1; frame(0) = " + none + "frame(-1) = " + none + "cube(0, 0) = "
             + none + "cube(-1, 3) = " + none + "certificate() = " + none + "shrunken() = " + none
