@@ -113,17 +113,18 @@ public final class SafetyProver {
         if (what < 0 || what >= STATE_NUMBERS) {
             throw new IllegalArgumentException("what must be 0 to 4");
         }
+        exploration.refresh();
         switch (what) {
             case 0:
                 return contains(circuit.initial(), state) ? 1 : 0;
             case 1:
                 return contains(circuit.good(), state) ? 1 : 0;
             case 2:
-                return explored().depthOf(state);
+                return exploration.depthOf(state);
             case 3:
-                return explored().distanceOf(state);
+                return exploration.distanceOf(state);
             default:
-                return explored().classOf(state);
+                return exploration.classOf(state);
         }
     }
 
@@ -131,6 +132,7 @@ public final class SafetyProver {
         if (what < 0 || what >= SYSTEM_NUMBERS) {
             throw new IllegalArgumentException("what must be 0 to 9");
         }
+        exploration.refresh();
         switch (what) {
             case 0:
                 return circuit.bits;
@@ -143,21 +145,22 @@ public final class SafetyProver {
             case 4:
                 return Long.bitCount(circuit.good());
             case 5:
-                return Long.bitCount(explored().reachable);
+                return Long.bitCount(exploration.reachable);
             case 6:
-                return explored().deepest;
+                return exploration.deepest;
             case 7:
-                return explored().classCount();
+                return exploration.classCount();
             case 8:
                 return circuit.keptCount;
             default:
-                return explored().runLength;
+                return exploration.runLength;
         }
     }
 
     public int shortest(int step, int what)
             throws IllegalStateException, IndexOutOfBoundsException, IllegalArgumentException {
-        int length = explored().runLength;
+        exploration.refresh();
+        int length = exploration.runLength;
         if (length == NONE) {
             throw new IllegalStateException("no bad state is reachable");
         }
@@ -167,11 +170,11 @@ public final class SafetyProver {
         if (what < 0 || what > 1) {
             throw new IllegalArgumentException("what must be 0 or 1");
         }
-        int at = explored().stateOfShortestRun(step);
+        int at = exploration.stateOfShortestRun(step);
         if (what == 0) {
             return at;
         }
-        return step == length ? NONE : explored().inputToBadState(at);
+        return step == length ? NONE : exploration.inputToBadState(at);
     }
 
     // ---- formulas that are asked; the buffer stays
@@ -183,12 +186,13 @@ public final class SafetyProver {
 
     public int check() throws IllegalStateException {
         requireStateFormula();
+        exploration.refresh();
         long asked = askedStates();
         int faults = 0;
         if ((circuit.initial() & ~asked) != 0) {
             faults += 1;
         }
-        if ((explored().successorsOf(asked) & ~asked) != 0) {
+        if ((exploration.successorsOf(asked) & ~asked) != 0) {
             faults += 2;
         }
         if ((asked & circuit.bad()) != 0) {
@@ -202,12 +206,13 @@ public final class SafetyProver {
             throw new IllegalArgumentException("what must be 0 to 2");
         }
         requireStateFormula();
+        exploration.refresh();
         long asked = askedStates();
-        int from = leastOf(asked & explored().predecessorsOf(circuit.all & ~asked));
+        int from = leastOf(asked & exploration.predecessorsOf(circuit.all & ~asked));
         if (from == NONE || what == 0) {
             return from;
         }
-        int input = explored().leastInputInto(from, circuit.all & ~asked);
+        int input = exploration.leastInputInto(from, circuit.all & ~asked);
         return what == 1 || input == NONE ? input : circuit.step(from, input);
     }
 
@@ -216,21 +221,22 @@ public final class SafetyProver {
             throw new IllegalArgumentException("kind must be 0 to 5");
         }
         requireStateFormula();
+        exploration.refresh();
         long asked = askedStates();
         long others = circuit.all & ~asked;
         switch (kind) {
             case 0:
-                return explored().predecessorsOf(asked);
+                return exploration.predecessorsOf(asked);
             case 1:
-                return circuit.all & ~explored().predecessorsOf(others);
+                return circuit.all & ~exploration.predecessorsOf(others);
             case 2:
-                return explored().statesThatCanReach(asked);
+                return exploration.statesThatCanReach(asked);
             case 3:
-                return circuit.all & ~explored().statesThatCanStayIn(others);
+                return circuit.all & ~exploration.statesThatCanStayIn(others);
             case 4:
-                return explored().statesThatCanStayIn(asked);
+                return exploration.statesThatCanStayIn(asked);
             default:
-                return circuit.all & ~explored().statesThatCanReach(others);
+                return circuit.all & ~exploration.statesThatCanReach(others);
         }
     }
 
@@ -275,31 +281,36 @@ public final class SafetyProver {
 
     public int shrunken() throws IllegalStateException {
         requireSafeProof();
-        return frameProof.countNeededCubes(explored());
+        exploration.refresh();
+        return frameProof.countNeededCubes(exploration);
     }
 
     // ---- other ways to prove
 
     public int induction(boolean simple) {
-        return otherWays().leastInduction(simple);
+        exploration.refresh();
+        return otherProofs.leastInduction(simple);
     }
 
     public long elimination(int width) throws IllegalArgumentException {
         if (width < 1 || width > MAX_WIDTH) {
             throw new IllegalArgumentException("width must be 1 to 3");
         }
-        return otherWays().eliminate(width);
+        exploration.refresh();
+        return otherProofs.eliminate(width);
     }
 
     public boolean isSafeWithFree(int free) throws IllegalArgumentException {
         if (free < 0 || free >= circuit.states) {
             throw new IllegalArgumentException("there is no such set of bits");
         }
-        return otherWays().staysGood(free);
+        exploration.refresh();
+        return otherProofs.staysGood(free);
     }
 
     public int leastCone() {
-        return otherWays().smallestCone();
+        exploration.refresh();
+        return otherProofs.smallestCone();
     }
 
     public int simulate(int steps, int seed, int what) throws IllegalArgumentException, IllegalStateException {
@@ -310,11 +321,22 @@ public final class SafetyProver {
         if (at == NONE) {
             throw new IllegalStateException("there is no initial state");
         }
-        return otherWays().simulateFrom(at, steps, seed, what);
+        return otherProofs.simulateFrom(at, steps, seed, what);
     }
 
     public long digest() {
-        long hash = hashOfExploring(HASH_START);
+        long hash = HASH_START;
+        for (int what = 0; what < SYSTEM_NUMBERS; what++) {
+            hash = mixed(hash, system(what));
+        }
+        for (int s = 0; s < circuit.states; s++) {
+            for (int what = 0; what < STATE_NUMBERS; what++) {
+                hash = mixed(hash, state(s, what));
+            }
+            for (int input = 0; input < circuit.inputValues; input++) {
+                hash = mixed(hash, successor(s, input));
+            }
+        }
         hash = mixed(hash, induction(false));
         hash = mixed(hash, induction(true));
         hash = mixed(hash, elimination(1));
@@ -354,17 +376,6 @@ public final class SafetyProver {
         frameProof.exists = false;
     }
 
-    /** The exploration of the circuit as it is now. */
-    private Exploration explored() {
-        exploration.refresh();
-        return exploration;
-    }
-
-    private OtherProofs otherWays() {
-        exploration.refresh();
-        return otherProofs;
-    }
-
     private int takeFormula(int row) {
         int changed = circuit.replaceRow(row, buffer);
         buffer.length = 0;
@@ -374,22 +385,6 @@ public final class SafetyProver {
 
     private long askedStates() {
         return buffer.valueFor(0) & circuit.all;
-    }
-
-    private long hashOfExploring(long start) {
-        long hash = start;
-        for (int what = 0; what < SYSTEM_NUMBERS; what++) {
-            hash = mixed(hash, system(what));
-        }
-        for (int s = 0; s < circuit.states; s++) {
-            for (int what = 0; what < STATE_NUMBERS; what++) {
-                hash = mixed(hash, state(s, what));
-            }
-            for (int input = 0; input < circuit.inputValues; input++) {
-                hash = mixed(hash, successor(s, input));
-            }
-        }
-        return hash;
     }
 
     private long hashOfProof(long start) {
@@ -780,7 +775,7 @@ public final class SafetyProver {
         }
     }
 
-    /** What is known of the states of the circuit; found anew at the first question after a change. */
+    /** What is known of the states of the circuit; found anew by refresh, if there was a change. */
     private static final class Exploration {
         final Circuit circuit;
         final int[] next;
@@ -889,27 +884,22 @@ public final class SafetyProver {
             }
         }
 
+        /** Names each state's finer class by the least state that stays with it; true if a class was divided. */
         boolean refineClasses() {
             boolean changed = false;
             for (int s = 0; s < circuit.states && s < MAX_STATES; s++) {
-                finerClasses[s] = finerClassOf(s);
-                if (finerClasses[s] != classes[s]) {
-                    changed = true;
+                int old = classes[s];
+                int least = s;
+                for (int t = old < 0 ? 0 : old; t < least; t++) {
+                    if (finerClasses[t] == t && classes[t] == old && goesAlike(s, t)) {
+                        least = t;
+                    }
                 }
+                finerClasses[s] = least;
+                changed = changed || least != old;
             }
             System.arraycopy(finerClasses, 0, classes, 0, MAX_STATES);
             return changed;
-        }
-
-        /** The least state that stays with s; for all lesser states the finer class is known already. */
-        int finerClassOf(int s) {
-            int old = classOf(s);
-            for (int t = old < 0 ? 0 : old; t < s && t < MAX_STATES; t++) {
-                if (finerClasses[t] == t && classes[t] == old && goesAlike(s, t)) {
-                    return t;
-                }
-            }
-            return s;
         }
 
         boolean goesAlike(int s, int t) {
