@@ -1,21 +1,9 @@
-import java.lang.reflect.InvocationTargetException;
-import java.lang.reflect.Method;
-
 /**
  * Runs of calls on new objects with answers that were worked out by hand from the document, promise by promise.
- * A run is written as the document writes its examples; a text in quotes stands for the calls of append that
- * write it.
+ * CallScript tells how a run is written.
  */
 public final class PromisesTest {
-    private static int wrong = 0;
-    private static int asked = 0;
-
-    /** A counter of three bits whose state 7 is bad. */
-    private static final String COUNTER = "begin(3, 0) = 8; '!a'; setNext(0) = 8; 'b^a'; setNext(1) = 4;"
-        + "'c^(a&b)'; setNext(2) = 2; '!(a&b&c)'; setProperty() = 7;";
-
-    /** Two bits and one input: 0 stays or goes to 1, 1 goes back to 0, 2 stays or goes to 3, 3 is bad. */
-    private static final String TWO_HALVES = "'x&!a'; setNext(0) = 6; '!(a&b)'; setProperty() = 3;";
+    private static final CallScript SCRIPT = new CallScript();
 
     public static void main(String[] args) throws Exception {
         theExamples();
@@ -27,8 +15,8 @@ public final class PromisesTest {
         proofs();
         otherWaysToProve();
         theDigest();
-        System.out.println(asked + " calls, " + wrong + " answers are not as due");
-        if (wrong != 0) {
+        System.out.println(SCRIPT.asked + " calls, " + SCRIPT.wrong + " answers are not as due");
+        if (SCRIPT.wrong != 0) {
             System.exit(1);
         }
     }
@@ -130,29 +118,27 @@ public final class PromisesTest {
     }
 
     private static void exploring() throws Exception {
-        run("10: successor", COUNTER + "successor(0, 0) = 1; successor(3, 0) = 4; successor(7, 0) = 0;"
+        run("10: successor", Circuits.COUNTER + "successor(0, 0) = 1; successor(3, 0) = 4; successor(7, 0) = 0;"
             + "successor(8, 0) = throws IndexOutOfBoundsException; successor(-1, 0) = throws IndexOutOfBoundsException;"
             + "successor(0, 1) = throws IllegalArgumentException; successor(0, -1) = throws IllegalArgumentException;"
             + "successor(8, 1) = throws IndexOutOfBoundsException");
-        run("11: state", COUNTER + "state(0, 0) = 1; state(7, 1) = 0; state(6, 1) = 1; state(5, 2) = 5; state(5, 3) = 2;"
+        run("11: state", Circuits.COUNTER + "state(0, 0) = 1; state(7, 1) = 0; state(6, 1) = 1; state(5, 2) = 5; state(5, 3) = 2;"
             + "state(7, 3) = 0; state(0, 3) = 7; state(4, 4) = 4; state(8, 0) = throws IndexOutOfBoundsException;"
             + "state(-1, 0) = throws IndexOutOfBoundsException; state(0, 5) = throws IllegalArgumentException;"
             + "state(0, -1) = throws IllegalArgumentException; state(8, 5) = throws IndexOutOfBoundsException");
-        run("11: states without depth or distance", TWO_HALVES + "state(0, 2) = 0; state(1, 2) = 1; state(2, 2) = -1;"
+        run("11: states without depth or distance", Circuits.TWO_HALVES + "state(0, 2) = 0; state(1, 2) = 1; state(2, 2) = -1;"
             + "state(3, 2) = -1; state(0, 3) = -1; state(1, 3) = -1; state(2, 3) = 1; state(3, 3) = 0; state(0, 4) = 0;"
             + "state(1, 4) = 0; state(2, 4) = 2; state(3, 4) = 3");
         run("11: classes", "begin(3, 1) = 8; 'b&x'; setNext(0) = 8; '!a'; setProperty() = 4; state(0, 4) = 0;"
             + "state(1, 4) = 1; state(2, 4) = 2; state(3, 4) = 3; state(4, 4) = 0; state(5, 4) = 1; state(6, 4) = 2;"
             + "state(7, 4) = 3; system(7) = 4; '0'; setProperty() = 0; state(7, 4) = 0; system(7) = 1");
-        run("12: system", COUNTER + "system(0) = 3; system(1) = 0; system(2) = 8; system(3) = 1; system(4) = 7;"
+        run("12: system", Circuits.COUNTER + "system(0) = 3; system(1) = 0; system(2) = 8; system(3) = 1; system(4) = 7;"
             + "system(5) = 8; system(6) = 7; system(7) = 8; system(8) = 4; system(9) = 7;"
             + "system(10) = throws IllegalArgumentException; system(-1) = throws IllegalArgumentException");
-        run("12: system of two halves", TWO_HALVES + "system(5) = 2; system(6) = 1; system(7) = 3; system(9) = -1;"
+        run("12: system of two halves", Circuits.TWO_HALVES + "system(5) = 2; system(6) = 1; system(7) = 3; system(9) = -1;"
             + "'0'; setInit() = 0; system(5) = 0; system(6) = -1; system(9) = -1; '1'; setInit() = 4; system(5) = 4;"
             + "system(6) = 0; system(9) = 0");
-        run("12: 64 states in a row", "begin(6, 0) = 64; '!a'; setNext(0) = 64; 'b^a'; setNext(1) = 32;"
-            + "'c^a&b'; setNext(2) = 16; 'd^a&b&c'; setNext(3) = 8; 'e^a&b&c&d'; setNext(4) = 4; 'f^a&b&c&d&e';"
-            + "setNext(5) = 2; '!(a&b&c&d&e&f)'; setProperty() = 63; system(5) = 64; system(6) = 63; system(7) = 64;"
+        run("12: 64 states in a row", Circuits.LONG_COUNTER + "system(5) = 64; system(6) = 63; system(7) = 64;"
             + "system(9) = 63; state(0, 3) = 63; state(63, 2) = 63; shortest(62, 0) = 62; shortest(63, 0) = 63;"
             + "shortest(63, 1) = -1; shortest(62, 1) = 0; shortest(64, 0) = throws IndexOutOfBoundsException;"
             + "successor(63, 0) = 0; successor(31, 0) = 32; prove() = 1; simulate(100, 0, 0) = 36;"
@@ -162,7 +148,7 @@ public final class PromisesTest {
             + "setProperty() = 63; system(9) = 0; shortest(0, 0) = 63; shortest(0, 1) = -1; simulate(0, 0, 0) = 63;"
             + "simulate(3, 0, 2) = 0; prove() = 1; proof(1) = 0; frame(0) = -9223372036854775808; state(63, 4) = 63;"
             + "'a&b&c&d&e&f'; candidate() = -9223372036854775808; check() = 4; escape(0) = -1");
-        run("13: shortest", COUNTER + "shortest(0, 0) = 0; shortest(0, 1) = 0; shortest(6, 0) = 6; shortest(7, 0) = 7;"
+        run("13: shortest", Circuits.COUNTER + "shortest(0, 0) = 0; shortest(0, 1) = 0; shortest(6, 0) = 6; shortest(7, 0) = 7;"
             + "shortest(7, 1) = -1; shortest(8, 0) = throws IndexOutOfBoundsException;"
             + "shortest(-1, 0) = throws IndexOutOfBoundsException; shortest(0, 2) = throws IllegalArgumentException;"
             + "shortest(0, -1) = throws IllegalArgumentException; shortest(8, 2) = throws IndexOutOfBoundsException;"
@@ -201,17 +187,17 @@ public final class PromisesTest {
                 + "escape(-1) = throws IllegalArgumentException; modal(-1) = throws IllegalArgumentException;"
                 + "clearBuffer() = " + text.length());
         }
-        run("15: check", TWO_HALVES + "'!b'; check() = 0; clearBuffer() = 2; '1'; check() = 4; clearBuffer() = 1; '0';"
+        run("15: check", Circuits.TWO_HALVES + "'!b'; check() = 0; clearBuffer() = 2; '1'; check() = 4; clearBuffer() = 1; '0';"
             + "check() = 1; clearBuffer() = 1; '!b&!a'; check() = 2; clearBuffer() = 5; 'b'; check() = 5;"
             + "clearBuffer() = 1; 'b&!a'; check() = 3; clearBuffer() = 4; 'a&b'; check() = 7; '&0'; check() = 1;"
             + "clearBuffer() = 5; '!b|b&!a'; check() = 2; clearBuffer() = 7; 'a|!b'; check() = 6");
-        run("16: escape", TWO_HALVES + "'!b'; escape(0) = -1; escape(1) = -1; escape(2) = -1; clearBuffer() = 2; '!a';"
+        run("16: escape", Circuits.TWO_HALVES + "'!b'; escape(0) = -1; escape(1) = -1; escape(2) = -1; clearBuffer() = 2; '!a';"
             + "escape(0) = 0; escape(1) = 1; escape(2) = 1; clearBuffer() = 2; 'a'; escape(0) = 1; escape(1) = 0;"
             + "escape(2) = 0; clearBuffer() = 1; 'b&!a'; escape(0) = 2; escape(1) = 1; escape(2) = 3;"
             + "escape(3) = throws IllegalArgumentException; escape(-1) = throws IllegalArgumentException;"
             + "clearBuffer() = 4");
         // 0 goes to 0 or 1, 1 to 0, 2 to 2 or 3, 3 to 2
-        run("17: modal", TWO_HALVES + "'a&!b'; modal(0) = 1; modal(1) = 0; modal(2) = 3; modal(3) = 2; modal(4) = 0;"
+        run("17: modal", Circuits.TWO_HALVES + "'a&!b'; modal(0) = 1; modal(1) = 0; modal(2) = 3; modal(3) = 2; modal(4) = 0;"
             + "modal(5) = 0; clearBuffer() = 4; '!a'; modal(0) = 15; modal(1) = 10; modal(2) = 15; modal(3) = 15;"
             + "modal(4) = 5; modal(5) = 0; clearBuffer() = 2; '!b'; modal(0) = 3; modal(1) = 3; modal(2) = 3;"
             + "modal(3) = 3; modal(4) = 3; modal(5) = 3; clearBuffer() = 2; '0'; modal(0) = 0; modal(1) = 0;"
@@ -222,7 +208,7 @@ public final class PromisesTest {
 
     private static void proofs() throws Exception {
         // The bad state 3 is reached from 2 alone; without a the cube {2, 3} is entered from nowhere.
-        run("18 to 23: a safe circuit", TWO_HALVES + "prove() = 0; proof(0) = 0; proof(1) = 2; proof(2) = 1; proof(3) = 1;"
+        run("18 to 23: a safe circuit", Circuits.TWO_HALVES + "prove() = 0; proof(0) = 0; proof(1) = 2; proof(2) = 1; proof(3) = 1;"
             + "proof(4) = 1; proof(5) = 1; proof(6) = 1; proof(7) = 1; frame(0) = 1; frame(1) = 3; frame(2) = 3;"
             + "cube(0, 0) = 2; cube(0, 1) = 2; cube(0, 2) = 2; certificate() = 3; shrunken() = 1; proof(2) = 1;"
             + "frame(3) = throws IndexOutOfBoundsException; frame(-1) = throws IndexOutOfBoundsException;"
@@ -230,7 +216,7 @@ public final class PromisesTest {
             + "cube(0, 3) = throws IllegalArgumentException; cube(0, -1) = throws IllegalArgumentException;"
             + "cube(1, 3) = throws IndexOutOfBoundsException; proof(8) = throws IllegalArgumentException;"
             + "proof(-1) = throws IllegalArgumentException");
-        run("18 to 23: an unsafe circuit", COUNTER + "prove() = 1; proof(0) = 1; proof(1) = 4; proof(2) = 3;"
+        run("18 to 23: an unsafe circuit", Circuits.COUNTER + "prove() = 1; proof(0) = 1; proof(1) = 4; proof(2) = 3;"
             + "proof(3) = 15; proof(4) = 7; proof(5) = 9; proof(6) = 0; proof(7) = 0; frame(0) = 1; frame(1) = 3;"
             + "frame(2) = 7; frame(3) = 15; frame(4) = 255; cube(0, 0) = 2; cube(1, 0) = 3; cube(1, 1) = 3;"
             + "cube(2, 2) = 3; cube(3, 0) = throws IndexOutOfBoundsException;"
@@ -250,8 +236,8 @@ public final class PromisesTest {
             + "cube(0, 1) = 1; cube(1, 0) = 2; cube(1, 1) = 2; certificate() = 1; shrunken() = 2; shrunken() = 2");
         // 0 goes to 0, 1 to 3, 2 to 0, 3 to 3; 2 and 3 are bad. Handled: (2, 1), then with k = 2 (2, 2), (3, 2), (1, 1),
         // (1, 2), (3, 2). The first cube gets the level 2 last, and is not needed beside the two others.
-        run("18 to 23: three cubes, one of them not needed", "'a'; setNext(0) = 0; 'a'; setNext(1) = 4; '!b';"
-            + "setProperty() = 2; prove() = 0; proof(1) = 3; proof(2) = 3; proof(3) = 6; proof(4) = 3; proof(5) = 2;"
+        run("18 to 23: three cubes, one of them not needed", Circuits.THREE_CUBES
+            + "prove() = 0; proof(1) = 3; proof(2) = 3; proof(3) = 6; proof(4) = 3; proof(5) = 2;"
             + "proof(6) = 1; proof(7) = 3; frame(0) = 1; frame(1) = 1; frame(2) = 1; frame(3) = 15; cube(0, 0) = 2;"
             + "cube(0, 1) = 2; cube(0, 2) = 2; cube(1, 0) = 3; cube(1, 1) = 2; cube(1, 2) = 2; cube(2, 0) = 1;"
             + "cube(2, 1) = 1; cube(2, 2) = 2; certificate() = 1; shrunken() = 2; proof(7) = 3; certificate() = 1");
@@ -265,7 +251,7 @@ public final class PromisesTest {
             + "prove() = 0; undo() = 2;" + forgotten + "prove() = 0; 'x'; setInit() = throws IllegalStateException;"
             + "setProperty() = throws IllegalStateException; setNext(5) = throws IndexOutOfBoundsException;"
             + "begin(9, 9) = throws IllegalArgumentException; proof(0) = 0; clearBuffer() = 1; proof(0) = 0");
-        run("18: a proof in place of another", COUNTER + "prove() = 1; undo() = 3; prove() = 0; proof(1) = 2;"
+        run("18: a proof in place of another", Circuits.COUNTER + "prove() = 1; undo() = 3; prove() = 0; proof(1) = 2;"
             + "proof(3) = 0; frame(2) = 255; '!(a&b&c)'; setProperty() = 7; prove() = 1; proof(3) = 15; prove() = 1;"
             + "proof(3) = 15; proof(4) = 7");
     }
@@ -274,8 +260,8 @@ public final class PromisesTest {
         run("24: induction", "induction(false) = 0; induction(true) = 0; '!b'; setProperty() = 2; induction(false) = 1;"
             + "induction(true) = 1; 'a'; setProperty() = 2; induction(false) = -1; induction(true) = -1");
         // 2 may stay at 2 as long as it likes before the bad state 3: only simple sequences end.
-        run("24: induction with a loop", TWO_HALVES + "induction(false) = -1; induction(true) = 2");
-        run("24: no induction where a bad state is reached", COUNTER + "induction(false) = -1; induction(true) = -1");
+        run("24: induction with a loop", Circuits.TWO_HALVES + "induction(false) = -1; induction(true) = 2");
+        run("24: no induction where a bad state is reached", Circuits.COUNTER + "induction(false) = -1; induction(true) = -1");
         run("24: induction over three steps", "begin(3, 0) = 8; '0'; setNext(0) = 4; 'a'; setNext(1) = 4; 'b';"
             + "setNext(2) = 4; '!c'; setProperty() = 4; induction(false) = 3; induction(true) = 3; 'a'; setInit() = 4;"
             + "induction(false) = -1; induction(true) = -1");
@@ -284,7 +270,7 @@ public final class PromisesTest {
             + "setNext(2) = 32; 'c'; setNext(3) = 32; 'd'; setNext(4) = 32; 'e'; setNext(5) = 32; '!f';"
             + "setProperty() = 32; induction(false) = 6; induction(true) = 6; leastCone() = 63; undo() = 6; undo() = 5;"
             + "'e'; setProperty() = 32; induction(false) = -1");
-        run("25: elimination", TWO_HALVES + "elimination(1) = 3; elimination(2) = 3; elimination(3) = 3;"
+        run("25: elimination", Circuits.TWO_HALVES + "elimination(1) = 3; elimination(2) = 3; elimination(3) = 3;"
             + "elimination(0) = throws IllegalArgumentException; elimination(4) = throws IllegalArgumentException;"
             + "elimination(-2147483648) = throws IllegalArgumentException");
         // Only 0 and 3 are reached: no cube with one bit tells, the cubes with two bits do.
@@ -293,12 +279,12 @@ public final class PromisesTest {
         run("25: elimination, three bits", "begin(3, 1) = 8; 'x'; setNext(0) = 8; 'x'; setNext(1) = 8; 'x';"
             + "setNext(2) = 8; elimination(1) = 255; elimination(2) = 129; elimination(3) = 129; '0'; setInit() = 0;"
             + "elimination(1) = 0");
-        run("26: isSafeWithFree", TWO_HALVES + "isSafeWithFree(0) = true; isSafeWithFree(1) = true;"
+        run("26: isSafeWithFree", Circuits.TWO_HALVES + "isSafeWithFree(0) = true; isSafeWithFree(1) = true;"
             + "isSafeWithFree(2) = false; isSafeWithFree(3) = false; isSafeWithFree(4) = throws IllegalArgumentException;"
             + "isSafeWithFree(-1) = throws IllegalArgumentException;"
             + "isSafeWithFree(2147483647) = throws IllegalArgumentException; '0'; setInit() = 0; isSafeWithFree(3) = true;"
             + "'1'; setInit() = 4; isSafeWithFree(0) = false");
-        run("27: leastCone", TWO_HALVES + "leastCone() = 2; '1'; setProperty() = 4; leastCone() = 0; '0';"
+        run("27: leastCone", Circuits.TWO_HALVES + "leastCone() = 2; '1'; setProperty() = 4; leastCone() = 0; '0';"
             + "setProperty() = 0; leastCone() = -1; '!(a&b)'; setProperty() = 3; leastCone() = 2");
         run("27: the least of several sets", "begin(3, 0) = 8; '!(b&c)'; setProperty() = 6; leastCone() = 2; 'c';"
             + "setNext(1) = 4; leastCone() = 4");
@@ -317,7 +303,7 @@ public final class PromisesTest {
             + "'!(a&b)'; setProperty() = 3; simulate(1, 0, 0) = 0; simulate(4, 0, 0) = 1; simulate(5, 0, 0) = 2;"
             + "simulate(6, 0, 0) = 3; simulate(7, 0, 0) = 1; simulate(100, 0, 2) = 6; simulate(5, 0, 2) = -1;"
             + "simulate(5, 0, 1) = 3; simulate(6, 0, 1) = 4");
-        run("28: simulate a counter", COUNTER + "simulate(5, 99, 0) = 5; simulate(100, 3, 0) = 4; simulate(100, 3, 1) = 8;"
+        run("28: simulate a counter", Circuits.COUNTER + "simulate(5, 99, 0) = 5; simulate(100, 3, 0) = 4; simulate(100, 3, 1) = 8;"
             + "simulate(6, 3, 1) = 7; simulate(6, 3, 2) = -1; simulate(7, 3, 2) = 7; simulate(100, 3, 2) = 7;"
             + "simulate(8, 2147483647, 0) = 0");
     }
@@ -350,50 +336,6 @@ public final class PromisesTest {
     }
 
     private static void run(String name, String calls) throws Exception {
-        SafetyProver object = new SafetyProver();
-        int at = 0;
-        while (at < calls.length()) {
-            char sign = calls.charAt(at);
-            if (sign == ' ' || sign == ';') {
-                at++;
-            } else if (sign == '\'') {
-                int end = calls.indexOf('\'', at + 1);
-                for (char code : calls.substring(at + 1, end).toCharArray()) {
-                    object.append(code);
-                }
-                at = end + 1;
-            } else {
-                int end = calls.indexOf(';', at) < 0 ? calls.length() : calls.indexOf(';', at);
-                call(name, object, calls.substring(at, end).trim());
-                at = end;
-            }
-        }
-    }
-
-    private static void call(String name, SafetyProver object, String text) throws Exception {
-        int open = text.indexOf('(');
-        int sign = text.indexOf(") = ");
-        String list = text.substring(open + 1, sign).trim();
-        String[] parts = list.isEmpty() ? new String[0] : list.split(",");
-        Object[] values = new Object[parts.length];
-        Class<?>[] types = new Class<?>[parts.length];
-        for (int index = 0; index < parts.length; index++) {
-            String part = parts[index].trim();
-            boolean isBoolean = part.equals("true") || part.equals("false");
-            types[index] = isBoolean ? boolean.class : int.class;
-            values[index] = isBoolean ? (Object) Boolean.valueOf(part) : (Object) Integer.valueOf(part);
-        }
-        Method method = SafetyProver.class.getMethod(text.substring(0, open), types);
-        String got;
-        try {
-            got = String.valueOf(method.invoke(object, values));
-        } catch (InvocationTargetException e) {
-            got = "throws " + e.getCause().getClass().getSimpleName();
-        }
-        asked++;
-        if (!got.equals(text.substring(sign + 4).trim())) {
-            wrong++;
-            System.out.println(name + ": due is " + text + ", but it answered " + got);
-        }
+        SCRIPT.run(name, calls);
     }
 }
