@@ -38,13 +38,8 @@ public final class CircuitBoundariesTest {
         document.finish();
     }
 
-    /** A call with one argument that is refused for each of the given values. */
     private static String refused(String call, String exception, int... values) {
-        StringBuilder calls = new StringBuilder();
-        for (int value : values) {
-            calls.append(call.replace("?", String.valueOf(value))).append(" = ").append(exception);
-        }
-        return calls.toString();
+        return Sentences.refused(call, exception, values);
     }
 
     /** A call that takes a formula without inputs: all that it refuses; the object has two bits and one input. */
@@ -78,6 +73,9 @@ public final class CircuitBoundariesTest {
             + "system(9) = -1; state(2, 2) = -1");
         document.holds("begin(6, 2) = 64; '0'; setNext(5) = 128; begin(1, 0) = 2; begin(6, 2) = 64; successor(63, 3) = 63;"
             + "successor(32, 0) = 32; successor(42, 1) = 42; state(63, 1) = 1; state(63, 0) = 0");
+        // The buffer is no part of the circuit.
+        document.holds("'b|'; begin(3, 0) = 8; firstError() = 2; 'c'; candidate() = 252; begin(2, 1) = 4; firstError() = 2;"
+            + "clearBuffer() = 3");
         document.says("No steps can be undone then.");
         document.holds("'!a'; setNext(0) = 8; system(8) = 1; begin(2, 1) = 4; system(8) = 0; undo() = " + STATE);
         document.holds("'1'; setInit() = 4;".repeat(11) + "system(8) = 10; begin(3, 0) = 8; undo() = " + STATE
@@ -193,6 +191,9 @@ public final class CircuitBoundariesTest {
             + "successor(1, 0) = 0; successor(1, 1) = 1; undo() = 0; successor(1, 0) = 1");
         document.holds("begin(6, 2) = 64; '!f|x&y'; setNext(5) = 224; successor(63, 3) = 63; successor(63, 2) = 31; undo() = 0;"
             + "successor(63, 2) = 63; successor(0, 0) = 0");
+        // The buffer is no part of what is undone.
+        document.holds("'!a'; setNext(0) = 8; 'b'; undo() = 0; candidate() = 12; clearBuffer() = 1; '1'; setInit() = 4; undo() = 0;"
+            + "clearBuffer() = 0");
         document.says("At most 10 such calls are kept; when a further one comes, the oldest one is forgotten.");
         StringBuilder calls = new StringBuilder("begin(5, 0) = 32;");
         for (int number = 1; number <= 25; number++) {
@@ -304,6 +305,7 @@ public final class CircuitBoundariesTest {
         document.says("7: classes;");
         document.holds("system(7) = 1; '0'; setProperty() = 0; system(7) = 1; 'a'; setProperty() = 2; system(7) = 2");
         document.holds(Circuits.LONG_COUNTER + "system(7) = 64; '1'; setProperty() = 64; system(7) = 1");
+        document.holds(Circuits.LONG_COUNTER + "system(7) = 64; begin(1, 0) = 2; system(7) = 1");
         document.says("8: calls that can be undone;");
         document.holds("system(8) = 0; '1'; setInit() = 4; system(8) = 1;" + "'1'; setInit() = 4;".repeat(8) + "system(8) = 9; '1';"
             + "setInit() = 4; system(8) = 10; '1'; setInit() = 4; system(8) = 10; undo() = 9; system(8) = 9");

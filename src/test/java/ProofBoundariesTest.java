@@ -47,13 +47,8 @@ public final class ProofBoundariesTest {
         document.finish();
     }
 
-    /** A call with one argument that is refused for each of the given values. */
     private static String refused(String call, String exception, int... values) {
-        StringBuilder calls = new StringBuilder();
-        for (int value : values) {
-            calls.append(call.replace("?", String.valueOf(value))).append(" = ").append(exception);
-        }
-        return calls.toString();
+        return Sentences.refused(call, exception, values);
     }
 
     private static void prove() throws Exception {
@@ -65,6 +60,15 @@ public final class ProofBoundariesTest {
             + ProofCalls.cubes() + ProofCalls.frames(1, 255, 255) + "'!(a&b&c)'; setProperty() = 7;" + counted);
         document.holds(Circuits.DEEP + "prove() = 0; proof(1) = 4; begin(2, 1) = 4;" + INITIAL_IS_BAD
             + ProofCalls.proof(1, 0, 0, 0, 0, 0, 0, 0) + ProofCalls.cubes() + ProofCalls.frames(1));
+        // Nothing of the first proof is left where the second one has fewer cubes. In the first line no state leads to the
+        // cube {2, 3, 6, 7} any more, which had the level 1.
+        document.holds(Circuits.COUNTER + "prove() = 1; proof(2) = 3; '0'; setNext(1) = 4; '1'; setProperty() = 8;"
+            + ProofCalls.proof(0, 2, 0, 0, 0, 0, 0, 0) + ProofCalls.cubes() + ProofCalls.frames(1, 255, 255)
+            + "certificate() = 255; shrunken() = 0");
+        document.holds(Circuits.TWO_TO_ONE + "prove() = 0; proof(2) = 2; shrunken() = 2; '1'; setProperty() = 4; prove() = 0;"
+            + "certificate() = 15; shrunken() = 0");
+        document.holds(Circuits.TWO_TO_ONE + "prove() = 0; shrunken() = 2; begin(2, 0) = 4; '!(a&b)'; setProperty() = 3;"
+            + "prove() = 0; proof(2) = 1; certificate() = 3; shrunken() = 1");
         document.says("Returns the verdict, 0 safe, 1 unsafe.");
         document.holds("prove() = 0; prove() = 0;" + INITIAL_IS_BAD + "prove() = 1; 'a'; setInit() = 2; prove() = 0;" + Circuits.FLIP
             + "prove() = 1");
@@ -161,8 +165,16 @@ public final class ProofBoundariesTest {
         document.holds("begin(3, 0) = 8; 'b'; setNext(0) = 4; 'a'; setNext(1) = 4; 'a'; setNext(2) = 4; '!b'; setProperty() = 4;"
             + ProofCalls.proof(0, 3, 4, 6, 4, 7, 1, 4) + ProofCalls.cubes("2 2 2", "6 2 2", "1 1 2", "4 4 2")
             + "certificate() = 1; shrunken() = 3");
-        // Cubes that are no part of the certificate are not counted.
+        // {4, 5, 6, 7} is needed, then {4, 5} is not, as long as the first one is there; {1, 3, 5, 7} is needed.
+        document.holds("begin(3, 0) = 8; 'c'; setNext(0) = 4; 'a'; setNext(1) = 4; 'a^c'; setNext(2) = 4; '!(a&c)';"
+            + "setProperty() = 6;" + ProofCalls.proof(0, 3, 3, 3, 3, 5, 1, 3) + ProofCalls.cubes("4 4 2", "6 4 2", "1 1 2")
+            + ProofCalls.frames(1, 5, 5, 255) + "certificate() = 5; shrunken() = 2");
+        // Without the only cube {0, 2} all is closed, but 0 is bad.
+        document.holds("begin(2, 0) = 4; 'a'; setInit() = 2; 'a|b'; setProperty() = 3;"
+            + ProofCalls.proof(0, 2, 1, 1, 1, 1, 1, 1) + ProofCalls.cubes("1 0 2") + "certificate() = 10; shrunken() = 1");
+        // Cubes that are no part of the certificate are not counted, though each of the four would be needed.
         document.holds(Circuits.LEVELS_1_AND_3 + "prove() = 0; proof(2) = 2; shrunken() = 1");
+        document.holds(Circuits.LEVELS_1_TO_4 + "prove() = 0; proof(2) = 4; shrunken() = 2");
         document.says("The proof stays as it is.");
         document.holds(Circuits.THREE_CUBES + ProofCalls.proof(0, 3, 3, 6, 3, 2, 1, 3) + "shrunken() = 2; shrunken() = 2; proof(2) = 3;"
             + "proof(7) = 3;" + ProofCalls.cubes("2 2 2", "3 2 2", "1 1 2") + ProofCalls.frames(1, 1, 1, 15) + "certificate() = 1");
@@ -186,6 +198,12 @@ public final class ProofBoundariesTest {
         document.holds(ROW + LAST_GOOD[1] + "induction(false) = 2; state(14, 2) = -1; state(15, 2) = -1");
         document.says("- `simple`: whether the states must be different from one another");
         document.holds(Circuits.TWO_HALVES + "induction(false) = -1; induction(true) = 2");
+        // The good states 0 and 2 go to one another, 0 also to 1 and 2 to 3: no three good states are different.
+        document.holds("'x'; setNext(0) = 4; '!b^x'; setNext(1) = 4; '0'; setInit() = 0; '!a'; setProperty() = 2;"
+            + "induction(false) = -1; induction(true) = 3");
+        // Four input values: 1 stays or goes to 0, 3 stays or goes to 2.
+        document.holds("begin(2, 2) = 4; '!y'; setNext(0) = 8; '0'; setInit() = 0; 'a'; setProperty() = 2;"
+            + "induction(false) = -1; induction(true) = 2");
         document.says("Returns the least k from 0 to 6; NONE if there is none.");
         for (int good = 0; good < LAST_GOOD.length; good++) {
             int least = good + 1 <= 6 ? good + 1 : -1;
@@ -314,6 +332,26 @@ public final class ProofBoundariesTest {
         write(unsafe, "!(a&b)");
         unsafe.setProperty();
         digestsOf(unsafe, "x");
+        digestWhereTheValuesDiffer();
+    }
+
+    /** Circuits where the two ways of induction, and the widths of elimination, have different answers. */
+    private static void digestWhereTheValuesDiffer() {
+        SafetyProver halves = new SafetyProver();
+        write(halves, "x&!a");
+        halves.setNext(0);
+        write(halves, "!(a&b)");
+        halves.setProperty();
+        digestIsDue(halves, "");
+        for (String[] formulas : new String[][] {{"x", "x", "x"}, {"x", "y", "x^y"}}) {
+            SafetyProver object = new SafetyProver();
+            object.begin(3, 2);
+            for (int bit = 0; bit < 3; bit++) {
+                write(object, formulas[bit]);
+                object.setNext(bit);
+            }
+            digestIsDue(object, "");
+        }
     }
 
     /** The digest without a proof, with one, with a change that forgets it, and with states that are not good. */

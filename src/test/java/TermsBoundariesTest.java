@@ -210,6 +210,12 @@ public final class TermsBoundariesTest {
         document.holds("'1'; setNext(0) = 4; '1'; setNext(1) = 4; '!(a&b)'; setProperty() = 3; '!(a&b)'; setInit() = 3;"
             + "shortest(0, 0) = 0; 'a^b'; setInit() = 2; shortest(0, 0) = 1; shortest(1, 0) = 3; system(9) = 1; '1';"
             + "setInit() = 4; shortest(0, 0) = 3; system(9) = 0");
+        // The last of 64 states begins the run.
+        document.holds("begin(6, 0) = 64; '" + STATE_63 + "'; setInit() = 1; 'a'; setNext(5) = 32; '0'; setNext(0) = 32;"
+            + "'a'; setProperty() = 32; system(9) = 1; shortest(0, 0) = 63; shortest(1, 0) = 62");
+        // 1 goes to 2 or 3, both by two of four input values.
+        document.holds("begin(2, 2) = 4; 'y'; setNext(0) = 8; 'a'; setNext(1) = 8; 'a'; setInit() = 2; 'a'; setProperty() = 2;"
+            + "system(9) = 1; shortest(0, 0) = 1; shortest(0, 1) = 0; shortest(1, 0) = 2; shortest(1, 1) = -1");
     }
 
     private static void classes() throws Exception {
@@ -225,6 +231,9 @@ public final class TermsBoundariesTest {
             + "system(7) = 4");
         document.holds("begin(2, 2) = 4; 'x&y'; setNext(0) = 8; '!a'; setProperty() = 2; state(2, 4) = 0; state(3, 4) = 1;"
             + "system(7) = 2");
+        // Four input values, and nothing ever changes.
+        document.holds("begin(2, 2) = 4; 'b'; setProperty() = 2; state(0, 4) = 0; state(1, 4) = 0; state(2, 4) = 2;"
+            + "state(3, 4) = 2; system(7) = 2");
         document.says("The class of a state is named by its least state.");
         document.holds("begin(3, 0) = 8; '!(a&c)'; setProperty() = 6; state(7, 4) = 5; state(5, 4) = 5; state(6, 4) = 0;"
             + "state(0, 4) = 0; system(7) = 2");
@@ -336,6 +345,8 @@ public final class TermsBoundariesTest {
             + "setProperty() = 6;" + proof(1, 2, 3, 7, 3, 4, 0, 0) + cubes("4 4 1", "7 6 2", "2 2 1") + frames(1, 3, 191));
         document.says("The obligation is removed; if i is less than k, the obligation (s, i + 1) is made.");
         document.holds(Circuits.TWO_TO_ONE + proof(0, 3, 2, 5, 3, 3, 0, 2));
+        // (1, 1), (2, 1); k = 2: (2, 2), (3, 1), (0, 0). As (1, 1) has the level k, there is no (1, 2).
+        document.holds(Circuits.THREE_TO_TWO + proof(1, 2, 2, 5, 2, 0, 1, 0) + cubes("3 1 2", "3 2 1") + frames(1, 9, 13));
         document.says("An obligation that is there already is not made a second time.");
         document.holds(Circuits.COUNTER + proof(1, 4, 3, 15, 7, 9, 0, 0));
         document.holds(Circuits.DEEP + proof(0, 4, 2, 10, 4, 3, 0, 2));
@@ -361,6 +372,11 @@ public final class TermsBoundariesTest {
     private static void theCertificate() throws Exception {
         document.says("The certificate set is the set of all states that are contained in no cube of the certificate.");
         document.holds(Circuits.LEVELS_1_AND_3 + "prove() = 0; proof(7) = 1; certificate() = 13");
+        // Cubes of the levels 1 and 2 are no part of it, though they were added before and between the others.
+        document.holds(Circuits.LEVELS_1_TO_4 + proof(0, 4, 4, 6, 5, 8, 3, 2) + cubes("4 4 1", "2 2 2", "5 4 4", "6 2 4")
+            + frames(1, 3, 35, 163, 163) + "certificate() = 163");
+        // A cube that was removed stood before the others: {2, 3} and {1, 3} are left.
+        document.holds(Circuits.TWO_TO_ONE + "prove() = 0; proof(4) = 3; proof(7) = 2; certificate() = 1");
         document.holds("prove() = 0; proof(7) = 0; certificate() = 15; begin(6, 0) = 64; prove() = 0; certificate() = -1");
         document.says("It contains all initial states and all successors of its states, and only good states.");
         document.holds(Circuits.LEVELS_1_AND_3 + "prove() = 0; certificate() = 13; '!a|b'; candidate() = 13; check() = 0");

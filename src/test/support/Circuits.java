@@ -38,6 +38,14 @@ final class Circuits {
     static final String DEEP = "begin(2, 0) = 4; 'b'; setNext(0) = 2; 'b&!a'; setNext(1) = 1; '!a|b';"
         + "setProperty() = 3;";
 
+    /** Two bits without inputs: 0 and 1 go to 3, 2 and 3 go to 2; 1 and 2 are bad. */
+    static final String THREE_TO_TWO = "begin(2, 0) = 4; '!b'; setNext(0) = 2; '1'; setNext(1) = 2; '!(a^b)';"
+        + "setProperty() = 2;";
+
+    /** Three bits without inputs: 1 and 3 go to 5, 5 goes to 7, 4 and 6 go to 2, 0 and 2 to 0, 7 stays; 2, 6 are bad. */
+    static final String LEVELS_1_TO_4 = "begin(3, 0) = 8; 'c'; setNext(1) = 4; 'a'; setNext(2) = 4; '!b|a';"
+        + "setProperty() = 6;";
+
     private Circuits() {
     }
 }

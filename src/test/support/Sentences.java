@@ -82,6 +82,15 @@ final class Sentences {
         }
     }
 
+    /** A call in which a question mark stands for each of the given values, all of which are refused. */
+    static String refused(String call, String exception, int... values) {
+        StringBuilder calls = new StringBuilder();
+        for (int value : values) {
+            calls.append(call.replace("?", String.valueOf(value))).append(" = ").append(exception);
+        }
+        return calls.toString();
+    }
+
     /** Tells what was found, and ends with exit code 1 if something is not as due. */
     void finish() {
         complainUnless(runs > 0, "there is no test for: " + sentence);
