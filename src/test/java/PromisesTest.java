@@ -6,7 +6,6 @@ public final class PromisesTest {
     private static final CallScript SCRIPT = new CallScript();
 
     public static void main(String[] args) throws Exception {
-        theExamples();
         theCircuit();
         theBuffer();
         changes();
@@ -19,21 +18,6 @@ public final class PromisesTest {
         if (SCRIPT.wrong != 0) {
             System.exit(1);
         }
-    }
-
-    private static void theExamples() throws Exception {
-        run("example 1", "begin(1, 1) = 2; append(97) = 1; append(124) = 2; append(120) = 3; setNext(0) = 1;"
-            + "append(33) = 1; append(97) = 2; setProperty() = 1; system(9) = 1; shortest(0, 1) = 1;"
-            + "shortest(1, 0) = 1; prove() = 1; proof(0) = 1");
-        run("example 2", "append(97) = 1; append(38) = 2; firstError() = 2; setNext(0) = throws IllegalStateException;"
-            + "append(33) = 3; append(98) = 4; setNext(1) = 6; successor(2, 0) = 0; append(99) = 1; firstError() = 0;"
-            + "clearBuffer() = 1; undo() = 0; successor(2, 0) = 2");
-        run("example 3", "append(33) = 1; append(98) = 2; setProperty() = 2; prove() = 0; proof(1) = 2; proof(2) = 1;"
-            + "cube(0, 0) = 2; cube(0, 1) = 2; certificate() = 3; shrunken() = 1; induction(false) = 1;"
-            + "leastCone() = 2; state(2, 3) = 0; state(0, 2) = 0");
-        run("example 4", "append(48) = 1; setInit() = 0; system(6) = -1; prove() = 0; proof(1) = 2; frame(0) = 0;"
-            + "simulate(1, 0, 0) = throws IllegalStateException; undo() = 0; undo() = throws IllegalStateException;"
-            + "simulate(1, 0, 1) = 1");
     }
 
     private static void theCircuit() throws Exception {

@@ -16,7 +16,7 @@ final class Sentences {
     static final String INDEX = "throws IndexOutOfBoundsException; ";
 
     private static final Path DOCUMENT = Path.of("../shared/DOC.md");
-    /** Lines of the document that promise nothing, and its examples, which PromisesTest carries out. */
+    /** Lines of the document that promise nothing, and those that DocumentTest looks at. */
     private static final String NO_PROMISE = "```.*|## .*|Ahead of the calls .*|Examples: .*|[1-4]\\. .*";
     private static final String HEADING = "(Circuits|Formulas|Reading a formula|Exploring|Cubes and frames|The proof"
         + "|Clauses by elimination|Circuits with free bits|Exceptions)\\.";
@@ -30,11 +30,8 @@ final class Sentences {
     private int runs = 1;
 
     Sentences() throws Exception {
-        if (!Files.exists(DOCUMENT)) {
-            return;
-        }
         List<String> inSection = new ArrayList<>();
-        for (String line : Files.readAllLines(DOCUMENT)) {
+        for (String line : lines()) {
             if (line.startsWith("## ")) {
                 inSection = new ArrayList<>();
                 sections.put(line.substring(3), inSection);
@@ -46,10 +43,22 @@ final class Sentences {
         }
     }
 
+    static List<String> lines() throws Exception {
+        return Files.readAllLines(DOCUMENT);
+    }
+
+    List<String> headings() {
+        return List.copyOf(sections.keySet());
+    }
+
+    List<String> sentencesOf(String heading) {
+        return sections.getOrDefault(heading, List.of());
+    }
+
     void section(String heading) {
         section = heading;
-        untested.addAll(sections.getOrDefault(heading, List.of()));
-        complainUnless(sections.isEmpty() || sections.containsKey(heading), "the document has no section " + heading);
+        untested.addAll(sentencesOf(heading));
+        complainUnless(sections.containsKey(heading), "the document has no section " + heading);
     }
 
     void says(String... quotes) {
@@ -58,8 +67,8 @@ final class Sentences {
         sentences++;
         sentence = section + ": " + String.join(" / ", quotes);
         for (String quote : quotes) {
-            boolean stands = sections.getOrDefault(section, List.of()).stream().anyMatch(piece -> piece.contains(quote));
-            complainUnless(stands || sections.isEmpty(), section + ": the document does not say there: " + quote);
+            boolean stands = sentencesOf(section).stream().anyMatch(piece -> piece.contains(quote));
+            complainUnless(stands, section + ": the document does not say there: " + quote);
             untested.removeIf(piece -> piece.contains(quote));
         }
     }
